@@ -1046,14 +1046,13 @@ public final class PasswordGate {
         final byte[] wide = new byte[64];
         final byte[] random = new byte[64];
         final byte[] maskKey = new byte[64];
-        final byte[] pad = new byte[128];
-
         final byte[] clientKey = new byte[32];
         final Bytes clientPublic = new Bytes(32);
         final byte[] seal = new byte[64];
         final byte[] exportKey = new byte[64];
 
-        private final Point made = new Point();
+        final Point made = new Point();
+        private final byte[] pad = new byte[128];
         private final Bytes body = new Bytes(400);
         private final Bytes info = new Bytes(150);
         private final int seed;
@@ -1061,7 +1060,7 @@ public final class PasswordGate {
 
         Kit(int seed) {
             this.seed = seed;
-            // the server's chances are the first two, whenever it takes them
+            // the first two chances are the server's, whenever it takes them
             this.chances = 2;
         }
 
@@ -1140,7 +1139,7 @@ public final class PasswordGate {
             curve.code(made, to);
         }
 
-        /** What SECOND makes of a password and its point times the user's key, and the mask key of it. */
+        /** SECOND, from the password's point times the user's key on, and the mask key by it. */
         void randomize(Bytes password, Point evaluated) {
             body.clear();
             body.putNumber(password.length, 2);
@@ -1184,10 +1183,10 @@ public final class PasswordGate {
             keyed.expand(random, info, wide, n);
         }
 
-        /** The key of a mask is given; masks and unmasks 128 bytes. */
-        void putMasked(byte[] key, byte[] nonceFrom, byte[] from, int at, Bytes to) {
+        /** Masks 128 bytes, or unmasks them, by the nonce m that stands in message 2. */
+        void putMasked(byte[] key, byte[] message, byte[] from, int at, Bytes to) {
             info.clear();
-            info.put(nonceFrom, 32, 32);
+            info.put(message, 32, 32);
             info.putText("CredentialResponsePad");
             keyed.expand(key, info, pad, 128);
             for (int i = 0; i < 128; i++) {
