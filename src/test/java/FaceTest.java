@@ -1,56 +1,51 @@
-import java.io.IOException;
 import java.lang.reflect.Constructor;
 import java.lang.reflect.Field;
 import java.lang.reflect.Method;
 import java.lang.reflect.Modifier;
-import java.nio.file.Files;
-import java.nio.file.Path;
 import java.util.Set;
 import java.util.TreeSet;
 
-/** The document's face, and those rules of LANGUAGE.md that the compiled class shows. */
+/** The public face, as the document tells it and rule 1 of LANGUAGE.md asks for it. */
 public final class FaceTest {
+    private static final Class<?> GATE = PasswordGate.class;
     private static final Set<String> FACE = Set.of(
         "boolean feed(int, int, int, int, int)", "boolean end(int)", "int hash()", "int group()", "int times()",
         "int result(int) throws NoSuchElementException", "int enroll(int)", "int begin(int, int)", "int answer(int)",
         "int finish(int)", "int accept(int)", "int wire(int, int, int) throws NoSuchElementException",
         "boolean tamper(int, int, int, int)", "int key(int, int, int) throws NoSuchElementException");
 
-    private static int wrong;
-
-    private static void check(String what, boolean good) {
-        if (!good) {
-            wrong++;
-            System.out.println(what);
-        }
+    public static void main(String[] args) {
+        Suite suite = new Suite("FaceTest", args);
+        suite.test("the class is public and final, and in no package", FaceTest::gate);
+        suite.test("the face has the document's methods and no other", FaceTest::methods);
+        suite.test("NONE is public, static, final and -1, and no other field is to be seen", FaceTest::fields);
+        suite.test("one constructor, public, of a seed", FaceTest::constructors);
+        suite.test("the classes inside are private or package-visible, and static", FaceTest::inside);
+        suite.test("no method inside bears the name of a public one", FaceTest::names);
+        suite.close();
     }
 
-    public static void main(String[] args) throws IOException {
-        Class<?> gate = PasswordGate.class;
-        check("the class is public and final",
-            Modifier.isPublic(gate.getModifiers()) && Modifier.isFinal(gate.getModifiers()));
+    private static void check(String what, boolean good) {
+        Both.due(what, good, true);
+    }
+
+    private static void gate() {
+        check("public", Modifier.isPublic(GATE.getModifiers()));
+        check("final", Modifier.isFinal(GATE.getModifiers()));
+        check("no package", GATE.getPackageName().isEmpty());
+        check("of Object alone", GATE.getSuperclass() == Object.class && GATE.getInterfaces().length == 0);
+    }
+
+    private static void methods() {
         Set<String> face = new TreeSet<>();
-        Set<String> names = new TreeSet<>();
-        for (Method method : gate.getDeclaredMethods()) {
+        for (Method method : GATE.getDeclaredMethods()) {
             if (!Modifier.isPrivate(method.getModifiers())) {
                 face.add(tell(method));
-                names.add(method.getName());
+                check(method + " is public and no static one",
+                    Modifier.isPublic(method.getModifiers()) && !Modifier.isStatic(method.getModifiers()));
             }
         }
         check("the face is " + face, face.equals(FACE));
-        for (Field field : gate.getDeclaredFields()) {
-            check("field " + field.getName(),
-                Modifier.isPrivate(field.getModifiers()) || field.getName().equals("NONE"));
-        }
-        Constructor<?>[] constructors = gate.getDeclaredConstructors();
-        check("one public constructor", constructors.length == 1 && Modifier.isPublic(constructors[0].getModifiers())
-            && constructors[0].getParameterCount() == 1 && constructors[0].getParameterTypes()[0] == int.class);
-        inside(gate, names);
-        source();
-        System.out.println("FaceTest: " + (wrong == 0 ? "all is as due" : wrong + " things are not as due"));
-        if (wrong != 0) {
-            System.exit(1);
-        }
     }
 
     private static String tell(Method method) {
@@ -67,35 +62,43 @@ public final class FaceTest {
         return out.toString();
     }
 
-    /** Rules 1, 5 and 11. */
-    private static void inside(Class<?> gate, Set<String> names) {
-        Class<?>[] classes = gate.getDeclaredClasses();
-        check("at most twelve classes", classes.length + 1 <= 12);
-        for (Class<?> type : classes) {
-            check(type + " is private or package-visible, and static", Modifier.isStatic(type.getModifiers())
-                && !Modifier.isPublic(type.getModifiers()) && !Modifier.isProtected(type.getModifiers()));
-            for (Method method : type.getDeclaredMethods()) {
-                check(method + " bears no name of the face", !names.contains(method.getName()));
-                check(method + " takes at most seven", method.getParameterCount() <= 7);
+    private static void fields() {
+        int seen = 0;
+        for (Field field : GATE.getDeclaredFields()) {
+            if (!Modifier.isPrivate(field.getModifiers())) {
+                seen++;
+                check(field.toString(), field.toString().equals("public static final int PasswordGate.NONE"));
             }
-            int fields = 0;
-            for (Field field : type.getDeclaredFields()) {
-                boolean fixed = Modifier.isStatic(field.getModifiers());
-                check(field + " is final", !fixed || Modifier.isFinal(field.getModifiers()));
-                fields += fixed ? 0 : 1;
-            }
-            check(type + " has " + fields + " fields", fields <= 20);
+        }
+        Both.due("fields", seen, 1);
+        Both.due("NONE", PasswordGate.NONE, -1);
+    }
+
+    private static void constructors() {
+        Constructor<?>[] all = GATE.getDeclaredConstructors();
+        Both.due("constructors", all.length, 1);
+        Both.due("it", all[0].toString(), "public PasswordGate(int)");
+    }
+
+    private static void inside() {
+        for (Class<?> type : GATE.getDeclaredClasses()) {
+            int modifiers = type.getModifiers();
+            check(type + " is static", Modifier.isStatic(modifiers));
+            check(type + " is not to be seen", !Modifier.isPublic(modifiers) && !Modifier.isProtected(modifiers));
         }
     }
 
-    /** Rules 4, 6 and 13, as far as words show them. */
-    private static void source() throws IOException {
-        for (String line : Files.readAllLines(Path.of("src/main/java/PasswordGate.java"))) {
-            if (line.startsWith("import ")) {
-                check(line, line.equals("import java.util.NoSuchElementException;"));
-            }
-            for (String word : new String[] {"->", "::", "synchronized", "assert ", "package ", "finally", "Exact("}) {
-                check("no " + word + " in " + line, !line.contains(word));
+    private static void names() {
+        Set<String> names = new TreeSet<>();
+        for (String told : FACE) {
+            names.add(told.substring(told.indexOf(' ') + 1, told.indexOf('(')));
+        }
+        for (Method method : GATE.getDeclaredMethods()) {
+            check(method.toString(), !Modifier.isPrivate(method.getModifiers()) || !names.contains(method.getName()));
+        }
+        for (Class<?> type : GATE.getDeclaredClasses()) {
+            for (Method method : type.getDeclaredMethods()) {
+                check(method.toString(), !names.contains(method.getName()));
             }
         }
     }

@@ -4,6 +4,8 @@ import java.nio.charset.StandardCharsets;
 import java.security.MessageDigest;
 import java.security.NoSuchAlgorithmException;
 import java.util.Arrays;
+import java.util.HashMap;
+import java.util.Map;
 import java.util.NoSuchElementException;
 
 /**
@@ -28,6 +30,11 @@ final class Oracle {
     record Root(boolean good, BigInteger r) { }
 
     record Spot(BigInteger x, BigInteger y, BigInteger z) { }
+
+    record Multiple(BigInteger k, Spot p) { }
+
+    /** The tests bring many gates to the same states, so what was reckoned once is kept. */
+    private static final Map<Multiple, Spot> KNOWN = new HashMap<>();
 
     // ---- bytes
 
@@ -167,6 +174,12 @@ final class Oracle {
     }
 
     static Spot times(BigInteger k, Spot p) {
+        return KNOWN.computeIfAbsent(new Multiple(k, p), Oracle::multiply);
+    }
+
+    private static Spot multiply(Multiple asked) {
+        BigInteger k = asked.k;
+        Spot p = asked.p;
         Spot out = new Spot(ZERO, ONE, ONE);
         for (int i = 255; i >= 0; i--) {
             out = sum(out, out);
@@ -353,7 +366,7 @@ final class Oracle {
         return key(expand(secret, join("user", number(1, user), "OprfKey"), 32), "OPAQUE-DeriveKeyPair");
     }
 
-    private static byte[] second(byte[] password, byte[] z) {
+    static byte[] second(byte[] password, byte[] z) {
         byte[] o = hash(join(number(2, password.length), password, number(2, 32), z, "Finalize"));
         return extract(join(o, o));
     }
@@ -452,9 +465,15 @@ final class Oracle {
         return talk;
     }
 
-    private static byte[] preamble(byte[] clientPublic, byte[] first, byte[] serverPublic, byte[] second) {
-        return join("OPAQUEv1-", number(2, 0), number(2, 32), clientPublic, first, number(2, 32), serverPublic,
-            cut(second, 0, 256));
+    /** The document's context is empty; that of the published vectors is not. */
+    static byte[] preamble(String context, byte[] clientPublic, byte[] first, byte[] serverPublic, byte[] second) {
+        return join("OPAQUEv1-", number(2, context.length()), context, number(2, 32), clientPublic, first,
+            number(2, 32), serverPublic, cut(second, 0, 256));
+    }
+
+    /** What the client of a session knows. */
+    Talk talk(int session) {
+        return talks[session];
     }
 
     int answer(int session) {
@@ -486,7 +505,7 @@ final class Oracle {
             xor(join(serverPublic, record.envelope), pad), nonce, open(y));
         byte[] joined = join(code(times(y, x)), code(times(serverKey, x)),
             code(times(y, decode(record.clientPublic))));
-        Keys keys = new Keys(preamble(record.clientPublic, first, serverPublic, second), joined);
+        Keys keys = new Keys(preamble("", record.clientPublic, first, serverPublic, second), joined);
         talk.wires[2] = join(second, keys.serverMac);
         talk.awaitedMac = keys.clientMac;
         talk.serverKey = keys.session;
@@ -520,7 +539,7 @@ final class Oracle {
             return 1;
         }
         byte[] joined = join(code(times(talk.x, y)), code(times(talk.x, s)), code(times(opened.key, y)));
-        Keys keys = new Keys(preamble(opened.clientPublic, talk.sent, publicOfServer, second), joined);
+        Keys keys = new Keys(preamble("", opened.clientPublic, talk.sent, publicOfServer, second), joined);
         if (!Arrays.equals(keys.serverMac, cut(second, 256, 320))) {
             return 4;
         }

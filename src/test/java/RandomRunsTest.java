@@ -15,14 +15,17 @@ public final class RandomRunsTest {
     }
 
     public static void main(String[] args) {
+        Suite suite = new Suite("RandomRunsTest", args);
         for (int run = 0; run < 40; run++) {
-            new RandomRunsTest(run).go();
+            RandomRunsTest told = new RandomRunsTest(run);
+            suite.test("run " + run, told::go);
         }
-        Both.close("RandomRunsTest");
+        suite.close();
     }
 
     private void go() {
-        for (int step = 0; step < 70; step++) {
+        // no step makes more than 40 calls that change something
+        for (int step = 0; step < 70 && both.left() > 40; step++) {
             call();
         }
         both.lookAll();
