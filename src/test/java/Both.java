@@ -97,7 +97,7 @@ final class Both {
         try {
             return call.applyAsInt(on);
         } catch (NoSuchElementException e) {
-            return THROWN;
+            return e.getClass() == NoSuchElementException.class ? THROWN : THROWN - 1;
         }
     }
 

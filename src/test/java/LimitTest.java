@@ -50,9 +50,15 @@ public final class LimitTest {
             due("begin", x.begin(i & 3, i & 7), 0);
             due("answer", x.answer(i & 3), 0);
         }
-        dueLeft(x, 112);
-        due("message 2", x.wireHex(3, 2).length(), 640);
-        due("message 1", x.wireHex(3, 1).length(), 192);
+        due("feed", x.feed(1, 2, 3, 4, 5) ? 1 : 0, 1);
+        due("enroll", x.enroll(6), 0);
+        due("feed", x.feed(1, 2, 3, 4, 5) ? 1 : 0, 1);
+        due("begin", x.begin(3, 6), 0);
+        due("answer", x.answer(3), 0);
+        due("finish", x.finish(3), 0);
+        due("accept", x.accept(3), 0);
+        dueLeft(x, 105);
+        x.lookAll();
     }
 
     private static void enrollings() {
