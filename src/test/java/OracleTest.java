@@ -1,6 +1,11 @@
 import java.math.BigInteger;
+import java.nio.ByteBuffer;
+import java.nio.LongBuffer;
 
-/** The yardstick itself, held against what is published: the first vector of RFC 9807, ristretto255 and SHA-512. */
+/**
+ * The yardstick itself, held against what is published (the first vector of RFC 9807, ristretto255 and SHA-512), and
+ * against the document's words where the oracle takes a shorter way.
+ */
 public final class OracleTest {
     public static void main(String[] args) {
         Suite suite = new Suite("OracleTest", args);
@@ -8,7 +13,126 @@ public final class OracleTest {
         suite.test("RFC 9496: BASE", () -> due("BASE", Oracle.code(Oracle.BASE),
             "e2f2ae0a6abc4e71a884a961c500515f58e30b6aa582dd8db6a65945e08d2d76"));
         suite.test("q times BASE is 0", () -> due("q", Oracle.open(Oracle.Q), "00".repeat(32)));
+        suite.test("HASH, by the document's words, is the library's SHA-512", OracleTest::hash);
+        suite.test("THE FIELD: i, D, e, g and BASE are what the document says", OracleTest::constants);
+        suite.test("POINTS: sums are the document's fractions", OracleTest::sums);
         suite.close();
+    }
+
+    /** The first 64 bits behind the point of the square or cube root of a number. */
+    private static long rootBits(int n, int power) {
+        BigInteger moved = BigInteger.valueOf(n).shiftLeft(64 * power);
+        BigInteger root = BigInteger.ZERO;
+        for (int bit = 70; bit >= 0; bit--) {
+            BigInteger more = root.setBit(bit);
+            root = more.pow(power).compareTo(moved) <= 0 ? more : root;
+        }
+        return root.longValue();
+    }
+
+    private static int[] primes(int n) {
+        int[] out = new int[n];
+        int found = 0;
+        for (int candidate = 2; found < n; candidate++) {
+            if (BigInteger.valueOf(candidate).isProbablePrime(50)) {
+                out[found++] = candidate;
+            }
+        }
+        return out;
+    }
+
+    private static byte[] wordHash(byte[] text) {
+        int zeros = Math.floorMod(112 - (text.length + 1), 128);
+        byte[] padded = Oracle.join(text, Oracle.number(1, 128), new byte[zeros], Oracle.number(16, 8 * text.length));
+        long[] state = new long[8];
+        for (int i = 0; i < 8; i++) {
+            state[i] = rootBits(primes(8)[i], 2);
+        }
+        for (int at = 0; at < padded.length; at += 128) {
+            mixBlock(state, ByteBuffer.wrap(padded, at, 128).asLongBuffer());
+        }
+        ByteBuffer out = ByteBuffer.allocate(64);
+        out.asLongBuffer().put(state);
+        return out.array();
+    }
+
+    private static long turned(long word, int first, int second, int third) {
+        return Long.rotateRight(word, first) ^ Long.rotateRight(word, second) ^ Long.rotateRight(word, third);
+    }
+
+    private static long moved(long word, int first, int second, int third) {
+        return Long.rotateRight(word, first) ^ Long.rotateRight(word, second) ^ word >>> third;
+    }
+
+    private static void mixBlock(long[] state, LongBuffer block) {
+        int[] primes = primes(80);
+        long[] w = new long[80];
+        for (int t = 0; t < 80; t++) {
+            w[t] = t < 16 ? block.get(t)
+                : moved(w[t - 2], 19, 61, 6) + w[t - 7] + moved(w[t - 15], 1, 8, 7) + w[t - 16];
+        }
+        long[] s = state.clone();
+        for (int t = 0; t < 80; t++) {
+            long x = s[7] + turned(s[4], 14, 18, 41) + (s[4] & s[5] ^ ~s[4] & s[6]) + rootBits(primes[t], 3) + w[t];
+            long y = turned(s[0], 28, 34, 39) + (s[0] & s[1] ^ s[0] & s[2] ^ s[1] & s[2]);
+            s = new long[] {x + y, s[0], s[1], s[2], s[3] + x, s[4], s[5], s[6]};
+        }
+        for (int i = 0; i < 8; i++) {
+            state[i] += s[i];
+        }
+    }
+
+    private static void hash() {
+        for (int n : new int[] {0, 1, 111, 112, 127, 128, 200, 495}) {
+            byte[] text = new byte[n];
+            for (int i = 0; i < n; i++) {
+                text[i] = (byte) (11 * i + 200);
+            }
+            due("HASH of " + n, Oracle.hash(text), Both.digits(wordHash(text)));
+        }
+    }
+
+    private static void dueNumber(String what, BigInteger got, BigInteger want) {
+        Both.due(what, got.mod(Oracle.P).toString(), want.mod(Oracle.P).toString());
+    }
+
+    private static void constants() {
+        BigInteger one = Oracle.ONE;
+        BigInteger minus = one.negate();
+        dueNumber("p", Oracle.P.add(BigInteger.valueOf(19)).shiftRight(255), one);
+        dueNumber("i i", Oracle.times(Oracle.I, Oracle.I), minus);
+        dueNumber("D 121666", Oracle.times(Oracle.D, BigInteger.valueOf(121666)), BigInteger.valueOf(-121665));
+        dueNumber("e e (-1 - D)", Oracle.times(Oracle.E, Oracle.E, minus.subtract(Oracle.D)), one);
+        Both.due("e is odd", Oracle.odd(Oracle.E), false);
+        dueNumber("g g", Oracle.times(Oracle.G, Oracle.G), Oracle.D.negate().subtract(one));
+        Both.due("g is odd", Oracle.odd(Oracle.G), true);
+        BigInteger x = Oracle.BASE.x();
+        BigInteger y = Oracle.BASE.y();
+        dueNumber("BASE's y", Oracle.times(y, BigInteger.valueOf(5)), BigInteger.valueOf(4));
+        Both.due("BASE's x is odd", Oracle.odd(x), false);
+        dueNumber("BASE is a point", Oracle.times(y, y).subtract(Oracle.times(x, x)),
+            one.add(Oracle.times(Oracle.D, x, x, y, y)));
+    }
+
+    private static BigInteger divided(BigInteger above, BigInteger below) {
+        return Oracle.times(above, below.modInverse(Oracle.P));
+    }
+
+    private static void sums() {
+        Oracle.Spot p = Oracle.group(Oracle.join("p"));
+        Oracle.Spot q = Oracle.group(Oracle.join("q"));
+        for (Oracle.Spot[] two : new Oracle.Spot[][] {{p, q}, {p, p}, {q, Oracle.BASE}, {p, Oracle.times(Oracle.ZERO, p)}}) {
+            BigInteger x1 = divided(two[0].x(), two[0].z());
+            BigInteger y1 = divided(two[0].y(), two[0].z());
+            BigInteger x2 = divided(two[1].x(), two[1].z());
+            BigInteger y2 = divided(two[1].y(), two[1].z());
+            BigInteger dxy = Oracle.times(Oracle.D, x1, x2, y1, y2);
+            Oracle.Spot sum = Oracle.sum(two[0], two[1]);
+            dueNumber("x", divided(sum.x(), sum.z()),
+                divided(Oracle.times(x1, y2).add(Oracle.times(y1, x2)), Oracle.ONE.add(dxy)));
+            dueNumber("y", divided(sum.y(), sum.z()),
+                divided(Oracle.times(y1, y2).add(Oracle.times(x1, x2)), Oracle.ONE.subtract(dxy)));
+        }
     }
 
     private static void due(String what, byte[] got, String want) {
